@@ -243,14 +243,26 @@ public final class ColouredHeap {
             int a = script.firsts[i];
             int b = script.seconds[i];
             int c = script.thirds[i];
-            boolean can = switch (script.kinds[i]) {
-                case Kind.MAKE -> make(a, b) != NONE;
-                case Kind.LOAD -> load(a, b, c) != CANNOT;
-                case Kind.STORE -> store(b, c, a);
-                case Kind.DROP -> drop(a);
-                case Kind.DAY -> passTicks(a) == a;
-                default -> true;
-            };
+            boolean can = true;
+            switch (script.kinds[i]) {
+                case Kind.MAKE:
+                    can = make(a, b) != NONE;
+                    break;
+                case Kind.LOAD:
+                    can = load(a, b, c) != CANNOT;
+                    break;
+                case Kind.STORE:
+                    can = store(b, c, a);
+                    break;
+                case Kind.DROP:
+                    can = drop(a);
+                    break;
+                case Kind.DAY:
+                    can = passTicks(a) == a;
+                    break;
+                default:
+                    break;
+            }
             if (!can) {
                 return i;
             }
@@ -297,26 +309,39 @@ public final class ColouredHeap {
         if (!isPage(page)) {
             return NONE;
         }
-        return switch (what) {
-            case 0 -> heap.states[page];
-            case 1 -> heap.used[page];
-            case 2 -> heap.live[page];
-            case 3 -> law.picked(textAt(told.ruling), heap, page) ? 1 : 0;
-            default -> NONE;
-        };
+        switch (what) {
+            case 0:
+                return heap.states[page];
+            case 1:
+                return heap.used[page];
+            case 2:
+                return heap.live[page];
+            case 3:
+                return law.picked(textAt(told.ruling), heap, page) ? 1 : 0;
+            default:
+                return NONE;
+        }
     }
 
     public int is(int what) {
-        return switch (what) {
-            case 0 -> heap.clock;
-            case 1 -> heap.x;
-            case 2 -> heap.phase;
-            case 3 -> heap.good;
-            case 4 -> heap.stackSize;
-            case 5 -> heap.givenOn[TO_MAKE];
-            case 6 -> heap.givenOn[TO_MOVE];
-            default -> CANNOT;
-        };
+        switch (what) {
+            case 0:
+                return heap.clock;
+            case 1:
+                return heap.x;
+            case 2:
+                return heap.phase;
+            case 3:
+                return heap.good;
+            case 4:
+                return heap.stackSize;
+            case 5:
+                return heap.givenOn[TO_MAKE];
+            case 6:
+                return heap.givenOn[TO_MOVE];
+            default:
+                return CANNOT;
+        }
     }
 
     public boolean marked(int address) {
@@ -497,15 +522,22 @@ public final class ColouredHeap {
     }
 
     public int about(int what) {
-        return switch (what) {
-            case 0 -> told.texts;
-            case 1 -> told.ruling;
-            case 2 -> steps.count;
-            case 3 -> heap.threadsBegun();
-            case 4 -> told.said;
-            case 5 -> reader.length;
-            default -> CANNOT;
-        };
+        switch (what) {
+            case 0:
+                return told.texts;
+            case 1:
+                return told.ruling;
+            case 2:
+                return steps.count;
+            case 3:
+                return heap.threadsBegun();
+            case 4:
+                return told.said;
+            case 5:
+                return reader.length;
+            default:
+                return CANNOT;
+        }
     }
 
     private static boolean isRoot(int root) {
@@ -543,20 +575,27 @@ public final class ColouredHeap {
     }
 
     private void draw(int x) {
+        int part = x / 6;
         switch (x % 6) {
-            case 0 -> heap.makeObject(x % 5, x / 6 % 4);
-            case 1 -> heap.loadField(4 + x % 2, x % 4, x / 6 % 3);
-            case 2 -> heap.storeField(x % 4, x % 3, x / 6 % 6);
-            case 3 -> {
-                if (x % 4 == 1) {
-                    heap.roots[x / 6 % 6] = NONE;
+            case 0:
+                heap.makeObject(x % 5, part % 4);
+                break;
+            case 1:
+                heap.loadField(4 + x % 2, x % 4, part % 3);
+                break;
+            case 2:
+                heap.storeField(x % 4, x % 3, part % 6);
+                break;
+            case 3:
+                if (x % 4 == 1 && isRoot(part % 6)) {
+                    heap.roots[part % 6] = NONE;
                 }
-            }
-            default -> {
+                break;
+            default:
                 if (heap.clock < LAST_CLOCK) {
                     heap.tick(law, textAt(told.ruling));
                 }
-            }
+                break;
         }
     }
 
@@ -1757,32 +1796,61 @@ public final class ColouredHeap {
                 int operation = text.operations[at];
                 int operand = text.operands[at];
                 at++;
-                switch (operation) {
-                    case Kind.NUMBER -> push(operand);
-                    case Kind.JUMP -> at = operand;
-                    case Kind.JUMP_UNLESS -> at = pop() == 0 ? operand : at;
-                    case Kind.CLOCK -> push(heap.clock);
-                    case Kind.PHASE -> push(heap.phase);
-                    case Kind.FREE_PAGES -> push(Integer.bitCount(heap.freePages()));
-                    case Kind.STACK -> push(heap.stackSize);
-                    case Kind.PAGE, Kind.FIELDS_MADE -> push(subject);
-                    case Kind.LIVES -> push(of(heap.live, subject));
-                    case Kind.WORDS_USED -> push(of(heap.used, subject));
-                    case Kind.LIVE -> push(of(heap.live, pop()));
-                    case Kind.USED -> push(of(heap.used, pop()));
-                    case Kind.NEGATE -> push(-pop());
-                    case Kind.NOT -> push(1 - pop());
-                    default -> {
-                        int right = pop();
-                        push(joined(operation, pop(), right));
-                    }
+                if (operation == Kind.JUMP) {
+                    at = operand;
+                } else if (operation == Kind.JUMP_UNLESS) {
+                    at = pop() == 0 ? operand : at;
+                } else if (operation == Kind.NUMBER) {
+                    push(operand);
+                } else if (operation == Kind.FREE_PAGES) {
+                    push(Integer.bitCount(heap.freePages()));
+                } else if (operation >= Kind.CLOCK && operation <= Kind.FIELDS_MADE) {
+                    push(named(operation, heap, subject));
+                } else if (isOfOne(operation)) {
+                    push(changed(operation, heap, pop()));
+                } else {
+                    int right = pop();
+                    push(joined(operation, pop(), right));
                 }
             }
             return pop();
         }
 
-        private static int of(int[] row, int page) {
-            return page >= 0 && page < row.length ? row[page] : 0;
+        private static int named(int name, Heap heap, int subject) {
+            boolean isPage = subject >= 0 && subject < PAGES;
+            switch (name) {
+                case Kind.CLOCK:
+                    return heap.clock;
+                case Kind.PHASE:
+                    return heap.phase;
+                case Kind.STACK:
+                    return heap.stackSize;
+                case Kind.LIVES:
+                    return isPage ? heap.live[subject] : 0;
+                case Kind.WORDS_USED:
+                    return isPage ? heap.used[subject] : 0;
+                default:
+                    return subject;
+            }
+        }
+
+        private static boolean isOfOne(int operation) {
+            return operation == Kind.NEGATE || operation == Kind.NOT || operation == Kind.LIVE
+                || operation == Kind.USED;
+        }
+
+        private static int changed(int operation, Heap heap, int value) {
+            boolean isPage = value >= 0 && value < PAGES;
+            switch (operation) {
+                case Kind.LIVE:
+                    return isPage ? heap.live[value] : 0;
+                case Kind.USED:
+                    return isPage ? heap.used[value] : 0;
+                case Kind.NOT:
+                    return 1 - value;
+                default:
+                    return -value;
+            }
         }
 
         /** What is too great or too small is cut here, at each step. */
@@ -1802,21 +1870,34 @@ public final class ColouredHeap {
         }
 
         private static long joined(int operation, int left, int right) {
-            return switch (operation) {
-                case Kind.PLUS -> left + right;
-                case Kind.MINUS -> left - right;
-                case Kind.TIMES -> (long) left * right;
-                case Kind.BY -> right == 0 ? 0 : left / right;
-                case Kind.OR -> left | right;
-                case Kind.AND -> left & right;
-                case Kind.LESS -> left < right ? 1 : 0;
-                case Kind.MORE -> left > right ? 1 : 0;
-                case Kind.LIKE -> left == right ? 1 : 0;
-                case Kind.UNLIKE -> left != right ? 1 : 0;
-                case Kind.AT_MOST -> left <= right ? 1 : 0;
-                case Kind.AT_LEAST -> left >= right ? 1 : 0;
-                default -> 0;
-            };
+            switch (operation) {
+                case Kind.PLUS:
+                    return left + right;
+                case Kind.MINUS:
+                    return left - right;
+                case Kind.TIMES:
+                    return (long) left * right;
+                case Kind.BY:
+                    return right == 0 ? 0 : left / right;
+                case Kind.OR:
+                    return left | right;
+                case Kind.AND:
+                    return left & right;
+                case Kind.LESS:
+                    return left < right ? 1 : 0;
+                case Kind.MORE:
+                    return left > right ? 1 : 0;
+                case Kind.LIKE:
+                    return left == right ? 1 : 0;
+                case Kind.UNLIKE:
+                    return left != right ? 1 : 0;
+                case Kind.AT_MOST:
+                    return left <= right ? 1 : 0;
+                case Kind.AT_LEAST:
+                    return left >= right ? 1 : 0;
+                default:
+                    return 0;
+            }
         }
     }
 }

@@ -131,7 +131,9 @@ public final class ModelTest {
         } else if (which < 85) {
             ask("day", draw.nextInt(20) == 0 ? draw.nextInt(64) - 1 : 1 + draw.nextInt(4));
         } else if (which < 88) {
-            ask("undo");
+            for (int i = draw.nextInt(6) == 0 ? draw.nextInt(32) : 1; i > 0; i--) {
+                ask("undo");
+            }
         } else if (which < 90) {
             ask("years", draw.nextInt(20) == 0 ? -1 : draw.nextInt(10001), draw.nextInt(42));
         } else if (which < 91) {
@@ -168,9 +170,24 @@ public final class ModelTest {
             ask("feed", four[0], four[1], four[2], four[3], four[4]);
         }
         ask("end", text.length());
-        ask("text");
+        int number = ask("text");
         ask("fault", 0);
         ask("fault", 1);
+        if (number >= 0) {
+            askItsLaws(number);
+        }
+    }
+
+    private void askItsLaws(int number) throws Exception {
+        int ruling = heap.about(1);
+        ask("by", number);
+        for (int page = 0; page < 8; page++) {
+            ask("page", page, 3);
+            ask("paces", page);
+        }
+        if (draw.nextBoolean()) {
+            ask("by", ruling);
+        }
     }
 
     private void runTheClockOut() throws Exception {

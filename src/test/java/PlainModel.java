@@ -775,6 +775,11 @@ public final class PlainModel {
 
     private static final Map<List<Integer>, Integer> KNOWN = new HashMap<>();
 
+    /** By trying all ways: the fewest pages for so many objects of 1, 2, 3 and 4 words. */
+    static int fewestPages(int ones, int twos, int threes, int fours) {
+        return fewest(List.of(ones, twos, threes, fours), KNOWN);
+    }
+
     // ---- the face
 
     private void step() {
@@ -1107,7 +1112,7 @@ public final class PlainModel {
         for (int address : far().keySet()) {
             count[size(s, address) - 1]++;
         }
-        return fewest(List.of(count[0], count[1], count[2], count[3]), KNOWN);
+        return fewestPages(count[0], count[1], count[2], count[3]);
     }
 
     public int till() {

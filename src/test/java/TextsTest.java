@@ -221,6 +221,14 @@ public final class TextsTest {
         fault("picks 1.5;", 1, 7);
         fault("picks 1" + (char) 233 + ";", 1, 7);
         fault("picks @;", 1, 6);
+        fault("picksa 1;", 1, 0);
+        fault("picksz 1;", 1, 0);
+        fault("picksA 1;", 1, 0);
+        fault("picksZ 1;", 1, 0);
+        fault("picks 1; picks@", 4, 9);
+        fault(";".repeat(300), 1, 0);
+        fault("picks 1" + "+1".repeat(146) + ";", 0, -1);
+        fault("picks 1" + "+1".repeat(146) + "+", 1, 300);
     }
 
     private static void places() {
@@ -238,6 +246,7 @@ public final class TextsTest {
         fault("picks + 1;", 1, 6);
         fault("picks 1 * * 2;", 1, 10);
         fault("picks if (1<2) then 1 else 2 end;", 1, 11);
+        fault("picks if 1 then 2 else 3 end;", 1, 11);
         fault("picks if 1<2 then 1 end;", 1, 20);
         fault("picks if 1<2 else 1;", 1, 13);
         fault("picks if 1<2<3 then 1 else 2 end;", 1, 12);
@@ -361,6 +370,16 @@ public final class TextsTest {
         value("if 1=1 or 1=1 and 1=2 then 3 else 4 end", 3);
         value("if not 1=1 or 1=1 then 3 else 4 end", 3);
         value("if not not 1=1 then 3 else 4 end", 3);
+        value("if not not 1=2 then 3 else 4 end", 4);
+        value("if not 1=1 then 3 else 4 end", 4);
+        value("if not 1=2 then 3 else 4 end", 3);
+        value("if not 1=2 and 1=1 then 3 else 4 end", 3);
+        value("if not 1=2 and 1=2 then 3 else 4 end", 4);
+        value("if 1<2 and 2>1 and 1=1 and 1#2 and 1<=2 and 2>=1 then 3 else 4 end", 3);
+        value("if not 1<2 or not 2>1 or not 1=1 or not 1#2 or not 1<=2 or not 2>=1 then 3 else 4 end", 4);
+        value("if 2<1 or 1>2 or 1=2 or 1#1 or 2<=1 or 1>=2 then 3 else 4 end", 4);
+        value("if 1<1 or 1>1 or 1<=0 or 0>=1 then 3 else 4 end", 4);
+        value("1" + "+1-1".repeat(50), 1);
         value("if 1>1 then 3 else if 1<=0 then 5 else 6 end end", 6);
         value("if if 1=1 then 0 else 1 end=0 then 7 else 8 end", 7);
         value("live 0", 0);

@@ -239,6 +239,46 @@ public final class ViewsTest {
             greedy.make(root, sizes[root] - 1);
         }
         CHECK.due("4 2 2 and 3 3 2", 2, greedy.pack());
+        packsOfAllKinds();
+    }
+
+    /** A row of objects that have a field each, the latest at root 5, and up to five without at the other roots. */
+    private static ColouredHeap rowOf(int ones, int twos, int threes, int fours) {
+        ColouredHeap heap = new ColouredHeap();
+        int[] count = {twos, threes, fours};
+        for (int fields = 3; fields >= 1; fields--) {
+            for (int i = 0; i < count[fields - 1]; i++) {
+                heap.make(0, fields);
+                heap.store(0, 0, 5);
+                heap.copy(5, 0);
+            }
+        }
+        heap.drop(0);
+        for (int root = 0; root < ones; root++) {
+            heap.make(root, 0);
+        }
+        return heap;
+    }
+
+    private static void packsOfAllKinds() {
+        for (int ones = 0; ones <= 5; ones += 1) {
+            for (int twos = 0; twos <= 9; twos++) {
+                for (int threes = 0; threes <= 9; threes++) {
+                    for (int fours = 0; fours <= 6; fours++) {
+                        int words = ones + 2 * twos + 3 * threes + 4 * fours;
+                        if (words > 48) {
+                            continue;
+                        }
+                        ColouredHeap heap = rowOf(ones, twos, threes, fours);
+                        if (heap.reach(true) != words) {
+                            continue;
+                        }
+                        int want = PlainModel.fewestPages(ones, twos, threes, fours);
+                        CHECK.due("pack of " + ones + " " + twos + " " + threes + " " + fours, want, heap.pack());
+                    }
+                }
+            }
+        }
     }
 
     private static void promise38() {
@@ -437,6 +477,45 @@ public final class ViewsTest {
         CHECK.due("a text in the place of the other", 1, Runs.tell(heap, "paces 5;"));
         heap.by(1);
         CHECK.due("its law", 5, heap.paces(0));
+        backToSteps();
+        backToSaid();
+    }
+
+    private static void backToSteps() {
+        ColouredHeap heap = new ColouredHeap();
+        for (int i = 0; i < 40; i++) {
+            heap.make(0, 0);
+        }
+        heap.image();
+        for (int i = 0; i < 35; i++) {
+            heap.drop(i % 2);
+            heap.make(i % 2, 0);
+        }
+        heap.back();
+        for (int i = 29; i >= 0; i--) {
+            CHECK.due("undo", i, heap.undo());
+            CHECK.due("the root then", 128 + 9 + i, heap.root(0));
+        }
+        heap.back();
+        CHECK.due("steps again", 30, heap.about(2));
+        CHECK.due("the root again", 128 + 39, heap.root(0));
+    }
+
+    private static void backToSaid() {
+        ColouredHeap heap = Runs.shared();
+        Runs.tell(heap, "picks page;");
+        heap.said(1, 1);
+        heap.said(0, 0);
+        heap.image();
+        heap.said(-1, 0);
+        heap.said(0, 1);
+        heap.said(1, 0);
+        CHECK.due("said otherwise", 0, heap.whose());
+        heap.back();
+        CHECK.due("said as it was", 1, heap.whose());
+        heap.said(-1, 0);
+        heap.said(0, 1);
+        CHECK.due("and otherwise again", 0, heap.whose());
     }
 
     private static void promise50() {
