@@ -514,8 +514,11 @@ public final class ViewsTest {
         heap.back();
         CHECK.due("said as it was", 1, heap.whose());
         heap.said(-1, 0);
+        heap.said(1, 0);
         heap.said(0, 1);
         CHECK.due("and otherwise again", 0, heap.whose());
+        heap.back();
+        CHECK.due("once more as it was", 1, heap.whose());
     }
 
     private static void promise50() {
