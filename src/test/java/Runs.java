@@ -1,4 +1,7 @@
-/** Beginnings that several tests go on from. */
+import java.util.ArrayList;
+import java.util.List;
+
+/** Beginnings that several tests go on from, and how all is. */
 final class Runs {
     private Runs() {
     }
@@ -79,5 +82,50 @@ final class Runs {
             heap.drop(root);
         }
         return heap;
+    }
+
+    /** Sixteen objects of three fields fill all pages; root 5 leads to the latest, field 0 of each to the one before. */
+    static ColouredHeap filled() {
+        ColouredHeap heap = new ColouredHeap();
+        for (int i = 0; i < 16; i++) {
+            heap.make(0, 3);
+            heap.store(0, 0, 5);
+            heap.copy(5, 0);
+        }
+        heap.drop(0);
+        return heap;
+    }
+
+    /** An empty heap at that clock: three ticks take it from idle to idle. */
+    static ColouredHeap atClock(int clock) {
+        ColouredHeap heap = new ColouredHeap();
+        for (int left = clock; left > 0; left -= 60) {
+            heap.day(Math.min(left, 60));
+        }
+        return heap;
+    }
+
+    /** All that can be seen of what is kept, in 321 calls. */
+    static List<String> all(ColouredHeap heap) {
+        List<String> all = new ArrayList<>();
+        for (int i = 0; i < 64; i++) {
+            all.add("at " + i + ": " + heap.at(i) + ", forward " + heap.forward(i) + ", " + heap.marked(i));
+        }
+        for (int page = 0; page < 8; page++) {
+            all.add("page " + page + ": " + heap.page(page, 0) + " " + heap.page(page, 1) + " " + heap.page(page, 2)
+                + " " + heap.page(page, 3));
+        }
+        for (int i = 0; i < 7; i++) {
+            all.add("is " + i + ": " + heap.is(i));
+        }
+        for (int i = 0; i < 6; i++) {
+            all.add("root " + i + ": " + heap.root(i) + ", about: " + heap.about(i));
+        }
+        int lines = heap.book(-1, 0);
+        for (int i = 0; i < lines; i++) {
+            all.add("line " + i + ": " + heap.book(i, 0) + " " + heap.book(i, 1) + " " + heap.book(i, 2));
+        }
+        all.add("fault " + heap.fault(0) + " at " + heap.fault(1));
+        return all;
     }
 }

@@ -45,22 +45,13 @@ public final class ViewsTest {
         CHECK.due("the phase stays", 0, heap.is(2));
         heap.begin(0, 4, 0);
         CHECK.due("nobody finishes", 0, heap.foretold(9, 0));
-        ColouredHeap late = atClock(9997);
+        ColouredHeap late = Runs.atClock(9997);
         CHECK.due("marking", 1, late.is(2));
         CHECK.due("those that can pass", 0, late.foretold(3, 0));
         CHECK.due("at the last", 0, late.foretold(60, 0));
         late.day(2);
         CHECK.due("none can pass", 0, late.foretold(1, 0));
         CHECK.due("all is free", 0xff, late.foretold(1, 1));
-    }
-
-    /** An empty heap takes three ticks from idle to idle. */
-    private static ColouredHeap atClock(int clock) {
-        ColouredHeap heap = new ColouredHeap();
-        for (int left = clock; left > 0; left -= 60) {
-            heap.day(Math.min(left, 60));
-        }
-        return heap;
     }
 
     private static void promise29() {
@@ -291,7 +282,7 @@ public final class ViewsTest {
         ColouredHeap begun = Runs.moving();
         begun.begin(0, 4, 0);
         CHECK.due("never", -1, begun.till());
-        ColouredHeap late = atClock(9999);
+        ColouredHeap late = Runs.atClock(9999);
         late.start();
         CHECK.due("beyond 9999, too", 2, late.till());
         CHECK.due("the clock stays", 9999, late.is(0));
@@ -546,7 +537,7 @@ public final class ViewsTest {
         ColouredHeap heap = Runs.moving();
         heap.begin(0, 4, 0);
         heap.begin(1, 4, 1);
-        String before = all(heap);
+        String before = Runs.all(heap).toString();
         heap.foretold(60, 1);
         heap.till();
         heap.alike();
@@ -556,16 +547,6 @@ public final class ViewsTest {
         heap.page(0, 3);
         heap.paces(3);
         heap.chain(8);
-        CHECK.due("all", before, all(heap));
-    }
-
-    private static String all(ColouredHeap heap) {
-        StringBuilder all = new StringBuilder();
-        for (int i = 0; i < 64; i++) {
-            all.append(heap.at(i)).append(' ').append(heap.forward(i)).append(heap.marked(i)).append(heap.is(i % 7));
-            all.append(heap.page(i / 4 % 8, i % 4)).append(heap.root(i % 6)).append(heap.about(i % 6)).append('\n');
-            all.append(heap.book(i % 25, 0)).append(heap.book(i % 25, 1)).append(heap.book(i % 25, 2)).append('\n');
-        }
-        return all.toString();
+        CHECK.due("all", before, Runs.all(heap).toString());
     }
 }
