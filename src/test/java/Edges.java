@@ -66,6 +66,12 @@ final class Edges {
         deed.applyAsInt(behind);
         behind.undo();
         dueAlike("all behind " + call + " and undo", Runs.all(before), Runs.all(behind));
+        dueAlike("the eldest step behind " + call, Runs.eldest(like.get()), eldestBehind(like.get(), deed));
+    }
+
+    private static List<String> eldestBehind(ColouredHeap heap, ToIntFunction<ColouredHeap> deed) {
+        deed.applyAsInt(heap);
+        return Runs.eldest(heap);
     }
 
     void refused(String call, boolean want, Supplier<ColouredHeap> like, Predicate<ColouredHeap> deed) {

@@ -79,7 +79,12 @@ public final class EdgesOfAnswersTest {
     }
 
     private static void newObject() {
-        edges.due("all pages are free", 0xff, freeNow(new ColouredHeap()));
+        ColouredHeap first = new ColouredHeap();
+        edges.due("all pages are free", 0xff, freeNow(first));
+        int[] is = {0, 463, 0, 2, 0, -1, -1};
+        for (int what = 0; what < 7; what++) {
+            edges.due("is " + what, is[what], first.is(what));
+        }
         ColouredHeap back = new ColouredHeap();
         edges.due("back at once", 0, back.back());
         edges.dueAlike("behind it", Runs.all(new ColouredHeap()), Runs.all(back));
@@ -229,6 +234,7 @@ public final class EdgesOfAnswersTest {
 
     private static void theBook() {
         edges.of("Promise 26", "BOOK: how many (i NONE)", EdgesOfAnswersTest::linesInTheBook);
+        edges.of("Promise 26", "the i-th, from the eldest on: 0 CLOCK", EdgesOfAnswersTest::clocksOfLines);
         edges.of("Promise 26", "-2 if there is none such, and for others.", EdgesOfAnswersTest::noLine);
         edges.of("Terms", "BY THE BOOK: how many lines there are of a kind.", EdgesOfAnswersTest::linesOfAKind);
         edges.of("Promise 47", "-2 for others (0 .. 5).", () -> refusedAll("ledger", -2, Edges.others(0, 5),
@@ -248,6 +254,19 @@ public final class EdgesOfAnswersTest {
         edges.due("nine", 9, Runs.moving().book(-1, 2));
         edges.due("25 of 40", 25, fullBook().book(-1, 1));
         edges.due("whatever is asked of them", 25, fullBook().book(-1, Integer.MAX_VALUE));
+    }
+
+    private static void clocksOfLines() {
+        ColouredHeap first = new ColouredHeap();
+        first.day(1);
+        edges.due("the first tick's", 0, first.book(0, 0));
+        ColouredHeap last = Runs.atClock(9998);
+        last.make(0, 0);
+        edges.due("made ahead of the last tick", 9998, last.book(24, 0));
+        last.day(1);
+        last.start();
+        edges.due("by hand behind it", 9999, last.book(24, 0));
+        edges.due("the eldest of 25", true, last.book(0, 0) < 9998);
     }
 
     private static void noLine() {
@@ -715,6 +734,12 @@ public final class EdgesOfAnswersTest {
         like.drop(5);
         like.start();
         edges.due("4 and 4", 0, like.poorest());
+        ColouredHeap highest = Runs.filled();
+        highest.load(5, 5, 0);
+        highest.load(5, 5, 0);
+        highest.start();
+        highest.day(14);
+        edges.due("all pages but the last have 8", 7, highest.poorest());
     }
 
     private static void noPoorest() {
@@ -743,6 +768,13 @@ public final class EdgesOfAnswersTest {
         ColouredHeap heap = Runs.shared();
         edges.due("none", -1, heap.shape(8, 2));
         edges.due("a field it hasn't", -1, heap.shape(1, 2));
+        heap.make(0, 0);
+        heap.make(1, 2);
+        heap.store(1, 0, 4);
+        heap.store(1, 1, 4);
+        for (int field = 0; field < 3; field++) {
+            edges.due("field " + field + " of one without", -1, heap.shape(12, field));
+        }
         edges.due("a dead one", -1, heap.shape(4, 0));
         edges.due("a word within", -1, heap.shape(9, 0));
         edges.due("one", 1, heap.shape(8, 1));
@@ -758,6 +790,10 @@ public final class EdgesOfAnswersTest {
             heap.make(root, root / 2 * 3);
         }
         edges.due("two without fields", true, heap.same(0, 1));
+        heap.store(2, 0, 0);
+        edges.due("still, though a field is near", true, heap.same(0, 1));
+        edges.due("the first of one leads to 0", false, heap.same(2, 8));
+        heap.store(2, 0, 5);
         edges.due("0 and 3 fields", false, heap.same(0, 2));
         edges.due("three fields, all nowhere", true, heap.same(2, 8));
         heap.store(2, 2, 0);
@@ -818,6 +854,8 @@ public final class EdgesOfAnswersTest {
         edges.of("Promise 18", "NONE for others.", EdgesOfAnswersTest::noYears);
         edges.of("Terms", "X is SEED (0 .. 9999) * 2 + 463; n times (1 .. 40)", EdgesOfAnswersTest::seeds);
         edges.of("Terms", "x is X, X is (X * 733 + 599) mod 31063", EdgesOfAnswersTest::draws);
+        edges.of("Terms", "x mod 6: 0 an OBJECT of x / 6 mod 4 fields is MADE at ROOT x mod 5",
+            EdgesOfAnswersTest::drawnAsByHand);
         edges.of("Terms", "(each if it can be; else nothing)", EdgesOfAnswersTest::drawsThatCannot);
         edges.of("Terms", "(without paces)", EdgesOfAnswersTest::drawnWithoutPaces);
         edges.of("Terms", "4, 5 a TICK (if it can pass).", EdgesOfAnswersTest::drawnTicks);
@@ -865,6 +903,57 @@ public final class EdgesOfAnswersTest {
             heap.back();
             heap.years(seed * 50, 40);
             edges.due("X of " + seed * 50, xAfter(seed * 50, 40), heap.is(1));
+        }
+    }
+
+    /** What the draw of x does, by the calls for it. */
+    private static void byHand(ColouredHeap heap, int x) {
+        int part = x / 6;
+        switch (x % 6) {
+            case 0 -> heap.make(x % 5, part % 4);
+            case 1 -> heap.load(4 + x % 2, x % 4, part % 3);
+            case 2 -> heap.store(x % 4, x % 3, part % 6);
+            case 3 -> {
+                if (x % 4 == 1) {
+                    heap.drop(part % 6);
+                }
+            }
+            default -> heap.day(1);
+        }
+    }
+
+    /** Each root has an object of three fields, which lead to its neighbours. */
+    private static ColouredHeap sixWithFields() {
+        ColouredHeap heap = new ColouredHeap();
+        for (int root = 0; root < 6; root++) {
+            heap.make(root, 3);
+        }
+        for (int root = 0; root < 6; root++) {
+            for (int field = 0; field < 3; field++) {
+                heap.store(root, field, (root + field + 1) % 6);
+            }
+        }
+        return heap;
+    }
+
+    private static void drawnAsByHand() {
+        for (int seed = 0; seed < 10000; seed += 37) {
+            ColouredHeap drawn = sixWithFields();
+            ColouredHeap called = sixWithFields();
+            int draws = 1 + seed % 40;
+            drawn.years(seed, draws);
+            for (int i = 0; i < draws; i++) {
+                byHand(called, xAfter(seed, i));
+            }
+            String what = draws + " draws of " + seed;
+            for (int address = 0; address < 64; address++) {
+                edges.due(what + ", word " + address, called.at(address), drawn.at(address));
+            }
+            for (int root = 0; root < 6; root++) {
+                edges.due(what + ", root " + root, called.root(root), drawn.root(root));
+            }
+            edges.due(what + ", clock", called.is(0), drawn.is(0));
+            edges.due(what + ", phase", called.is(2), drawn.is(2));
         }
     }
 
@@ -1022,6 +1111,23 @@ public final class EdgesOfAnswersTest {
         }
         edges.due("no more", -1, steps.undo());
         edges.dueAlike("all is taken back", Runs.all(like), Runs.all(steps));
+        ColouredHeap said = new ColouredHeap();
+        Runs.tell(said, "picks 3-page;");
+        said.said(0, 1);
+        said.said(7, 0);
+        said.image();
+        for (int first = 0; first < 8; first += 7) {
+            said.said(-1, 0);
+            said.said(first, first / 7);
+            said.said(7 - first, 1 - first / 7);
+            edges.due("said otherwise", 0, said.whose());
+            said.back();
+            edges.due("said as it was", 1, said.whose());
+        }
+        textsAgain();
+    }
+
+    private static void textsAgain() {
         ColouredHeap texts = new ColouredHeap();
         Runs.tell(texts, "paces 1;");
         texts.image();

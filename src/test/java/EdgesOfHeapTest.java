@@ -347,6 +347,8 @@ public final class EdgesOfHeapTest {
             EdgesOfHeapTest::onTheStackOnce);
         edges.of("Terms", "if that PAGE is CHOSEN and there is no FORWARD yet, the OBJECT is MOVED first",
             EdgesOfHeapTest::movedOnce);
+        edges.of("Terms", "the OBJECT is MOVED first: words for it GIVEN OUT, all words copied",
+            EdgesOfHeapTest::allWordsAlone);
         edges.of("Terms", "FORWARD told (it is MARKED then, too; the old one stays MARKED)",
             EdgesOfHeapTest::bothMarked);
         edges.of("Terms", "(Idle: WHERE it did.)", EdgesOfHeapTest::mendedWhileIdle);
@@ -361,6 +363,50 @@ public final class EdgesOfHeapTest {
         far.day(3);
         edges.due("the least address", 32, far.forward(0));
         edges.due("words within have none", -1, far.forward(1));
+        forwardToTheFirst();
+    }
+
+    /** Page 0 is free when page 1 is chosen: the object at 8 goes to 0. Root 3 has one at 16 that leads to it twice. */
+    private static ColouredHeap toTheFirst() {
+        ColouredHeap heap = new ColouredHeap();
+        heap.make(5, 3);
+        heap.make(5, 3);
+        heap.make(0, 2);
+        heap.make(5, 3);
+        heap.make(3, 2);
+        heap.store(3, 0, 0);
+        heap.store(3, 1, 0);
+        heap.drop(0);
+        heap.drop(5);
+        heap.start();
+        heap.day(2);
+        heap.choose();
+        return heap;
+    }
+
+    private static void forwardToTheFirst() {
+        ColouredHeap heap = toTheFirst();
+        heap.day(1);
+        edges.due("the address 0 is another one", 0, heap.forward(8));
+        edges.due("copied", 1002, heap.at(0));
+        edges.due("marked", true, heap.marked(0));
+        edges.due("a stale pointer leads there", 0, heap.current(8));
+        edges.due("loaded", 128, heap.load(1, 3, 0));
+        edges.due("not moved again", 3, heap.page(0, 1));
+        edges.due("the end", 0, heap.day(1));
+        ColouredHeap threads = toTheFirst();
+        edges.due("a copy at 0", 1, threads.begin(0, 3, 0));
+        edges.due("a copy at 3", 1, threads.begin(1, 3, 1));
+        edges.due("alike", 1, threads.alike());
+        edges.due("told", 128, threads.finish(0, 0));
+        edges.due("the other one's", 128, threads.finish(1, 1));
+        edges.due("is the last", 3, threads.page(0, 1));
+        ColouredHeap late = toTheFirst();
+        late.begin(0, 3, 0);
+        edges.due("moved by a load", 131, late.load(1, 3, 1));
+        edges.due("the copy at 0 was late", 131, late.finish(0, 0));
+        edges.due("and stays", 1002, late.at(0));
+        edges.due("not marked", false, late.marked(0));
     }
 
     private static void whereItLeads() {
@@ -442,6 +488,19 @@ public final class EdgesOfHeapTest {
         edges.due("two roots: the first", 144, two.root(0));
         edges.due("the second", 144, two.root(1));
         edges.due("moved once", 1, two.ledger(4));
+    }
+
+    private static void allWordsAlone() {
+        for (int fields = 2; fields <= 3; fields++) {
+            ColouredHeap heap = threeToMove(fields);
+            heap.day(1);
+            for (int word = 0; word <= fields; word++) {
+                edges.due("word " + word + " of " + fields, heap.at(word), heap.at(32 + word));
+                edges.due("it stays", word == 0 ? 1000 + fields : -1, heap.at(word));
+            }
+            edges.due("nothing behind them", -2, heap.at(33 + fields));
+            edges.due("used", fields + 1, heap.page(4, 1));
+        }
     }
 
     private static void bothMarked() {
@@ -949,6 +1008,7 @@ public final class EdgesOfHeapTest {
     }
 
     private static void marksOfTheStack() {
+        fieldsOfTheLatest();
         ColouredHeap heap = new ColouredHeap();
         heap.make(0, 0);
         heap.make(1, 2);
@@ -968,6 +1028,20 @@ public final class EdgesOfHeapTest {
         heap.day(1);
         edges.due("one without fields, the eldest, is the last", 0, heap.is(4));
         edges.due("marking yet", 1, heap.is(2));
+    }
+
+    private static void fieldsOfTheLatest() {
+        ColouredHeap others = started();
+        others.undo();
+        others.make(0, 1);
+        others.make(1, 1);
+        others.store(1, 0, 0);
+        others.drop(0);
+        others.drop(1);
+        others.start();
+        others.day(2);
+        edges.due("no other's fields are mended", 128 + 12, others.at(15));
+        edges.due("nor what they lead to marked", false, others.marked(12));
         ColouredHeap order = new ColouredHeap();
         order.make(0, 2);
         order.make(1, 1);
@@ -1091,6 +1165,8 @@ public final class EdgesOfHeapTest {
         unused.day(2);
         unused.choose();
         edges.due("is free then", 0, unused.page(2, 0));
+        edges.due("the page ahead of it is what it was", 1003, unused.at(8));
+        edges.due("the page behind it is what it was", 1002, unused.at(24));
         ColouredHeap one = pages("picks 0;", 1, page(1, -4, -3));
         one.choose();
         edges.due("one live word keeps a page", 1, one.page(0, 0));
@@ -1413,6 +1489,7 @@ public final class EdgesOfHeapTest {
         takenBack("a move", Runs::moving, heap -> heap.day(1));
         takenBack("the end", EdgesOfHeapTest::movedAll, heap -> heap.day(1));
         takenBack("years", Runs::shared, heap -> heap.years(77, 40));
+        takenBack("a line more than the book has", EdgesOfHeapTest::linesToTheLast, heap -> heap.make(1, 0));
         ColouredHeap heap = begunBoth();
         heap.finish(1, 0);
         heap.undo();
@@ -1422,6 +1499,16 @@ public final class EdgesOfHeapTest {
         colours.undo();
         colours.start();
         edges.due("the latest mark, too", 1, colours.is(3));
+    }
+
+    /** The book is full by draws, which are few steps. */
+    private static ColouredHeap linesToTheLast() {
+        ColouredHeap heap = new ColouredHeap();
+        for (int seed = 0; seed < 4; seed++) {
+            heap.years(seed, 40);
+        }
+        edges.due("a full book", 25, heap.book(-1, 0));
+        return heap;
     }
 
     private static ColouredHeap movedAll() {

@@ -81,6 +81,21 @@ public final class EdgesOfTextsTest {
         ColouredHeap full = fullTape();
         edges.due("end 300 of 300", 300, full.end(300));
         edges.due("all of it", 0, full.text());
+        cut("drop 0;drop 6;", 7, 0, -1);
+        cut("drop 0;drop 6;", 13, 2, 12);
+        cut("dropper 0;", 4, 1, 4);
+        cut("picks 12345;", 10, 1, 10);
+        cut("picks if 1<=2 then", 11, 1, 11);
+    }
+
+    /** What stood behind the end does not come into the last token. */
+    private static void cut(String tape, int n, int what, int place) {
+        ColouredHeap heap = new ColouredHeap();
+        Runs.tape(heap, tape);
+        heap.end(n);
+        heap.text();
+        edges.due("fault of " + n + " of " + tape, what, heap.fault(0));
+        edges.due("its place", place, heap.fault(1));
     }
 
     private static ColouredHeap twenty() {
@@ -148,6 +163,13 @@ public final class EdgesOfTextsTest {
         edges.refused("a fifth", -1, () -> fourTexts("drop 0;"), ColouredHeap::text);
         edges.refused("a fifth with a fault", -1, () -> fourTexts("drop 6;"), ColouredHeap::text);
         edges.refused("an empty fifth", -1, () -> fourTexts(""), ColouredHeap::text);
+        ColouredHeap many = new ColouredHeap();
+        for (int i = 0; i < 24; i++) {
+            edges.due("a fault " + i, -1, Runs.tell(many, "picks 1" + "+1".repeat(120)));
+        }
+        edges.due("faults use up no room", 0, Runs.tell(many, "picks 0" + "+0".repeat(144) + "+1;"));
+        many.by(0);
+        edges.due("its law", 1, many.page(0, 3));
         ColouredHeap back = fourTexts("drop 0; drop");
         back.text();
         back.back();
@@ -165,6 +187,14 @@ public final class EdgesOfTextsTest {
         edges.due("played", -1, heap.played(0));
         edges.due("the first clause", -1, heap.root(0));
         edges.due("the last clause", 3, heap.is(0));
+        fault(" ".repeat(299) + "@", 1, 299);
+        fault(" ".repeat(299) + ";", 1, 299);
+        fault(" ".repeat(299) + "<", 1, 299);
+        fault("picks if 1" + " ".repeat(289) + ">", 1, 300);
+        right("\n".repeat(300));
+        fault(";".repeat(300), 1, 0);
+        fault("picks " + "1".repeat(294), 2, 6);
+        fault("a".repeat(300), 1, 0);
         String sum = "picks 1" + "+1".repeat(146) + ";";
         edges.due("300 bytes without a blank", 300, sum.length());
         edges.due("a sum of 147", 1, Runs.tell(heap, sum));
@@ -244,6 +274,7 @@ public final class EdgesOfTextsTest {
         edges.of("Promise 17", "NONE: all is done; else the number of the CLAUSE that can't be.",
             EdgesOfTextsTest::clauseThatCannot);
         edges.of("Promise 17", "-2 for others.", EdgesOfTextsTest::playedOthers);
+        edges.of("Terms", "its CLAUSES but laws, in their order, as by hand", EdgesOfTextsTest::greatestNumbersPlayed);
         edges.of("Terms", "one that can't be ends it", EdgesOfTextsTest::eachKindCannot);
         edges.of("Terms", "(of so many TICKS those that can pass do)", EdgesOfTextsTest::ticksThatCan);
         edges.of("Terms", "its number among all CLAUSES (from 0)", EdgesOfTextsTest::lawsAreCounted);
@@ -260,6 +291,11 @@ public final class EdgesOfTextsTest {
         edges.due("the first", 0, played(new ColouredHeap(), "drop 0;"));
         edges.due("the last of 24", 23, played(new ColouredHeap(), "day 1;".repeat(23) + "drop 0;"));
         edges.due("all 24", -1, played(new ColouredHeap(), "day 1;".repeat(24)));
+        ColouredHeap two = new ColouredHeap();
+        Runs.tell(two, "drop 0;".repeat(24));
+        edges.due("one clause, behind a text of 24", -1, played(two, "day 1;"));
+        edges.due("none, behind a text of 24", -1, played(two, ""));
+        edges.due("one tick", 1, two.is(0));
     }
 
     private static void playedOthers() {
@@ -268,6 +304,24 @@ public final class EdgesOfTextsTest {
             edges.refused("played " + text + " of four", -2, () -> fourTexts(""), heap -> heap.played(text));
         }
         edges.refused("played 1 of one", -2, () -> Runs.ruled("day 1;"), heap -> heap.played(1));
+    }
+
+    private static void greatestNumbersPlayed() {
+        ColouredHeap heap = new ColouredHeap();
+        edges.due("played", -1, played(heap, "make 0 of 0;make 5 of 3;store 0 to 5 of 2;load 4 from 5 of 2;drop 0;"));
+        edges.due("made without fields", 1000, heap.at(0));
+        edges.due("made of three", 1003, heap.at(1));
+        edges.due("at root 5", 129, heap.root(5));
+        edges.due("stored into field 2", 128, heap.at(4));
+        edges.due("loaded into root 4", 128, heap.root(4));
+        edges.due("dropped", -1, heap.root(0));
+        edges.due("a step each", 5, heap.about(2));
+        edges.due("60 ticks", -1, played(heap, "day 60;"));
+        edges.due("clock", 60, heap.is(0));
+        ColouredHeap paced = Runs.ruled("paces 2; make 3 of 1;");
+        edges.due("made as by hand", -1, paced.played(0));
+        edges.due("with the ticks of THE TEXT", 2, paced.is(0));
+        edges.due("of that step", 1, paced.about(2));
     }
 
     private static void eachKindCannot() {
@@ -511,11 +565,15 @@ public final class EdgesOfTextsTest {
     private static void sums() {
         edges.of("Terms", "live ONE (LIVE words of the PAGE of that number; 0 for others)", EdgesOfTextsTest::liveOfPages);
         edges.of("Terms", "used ONE (USED words likewise)", EdgesOfTextsTest::usedOfPages);
+        edges.of("Terms", "NAMES: clock, phase, free (how many PAGES are FREE), stack (how many lie on it) in both",
+            EdgesOfTextsTest::namesAtTheirEnds);
+        edges.of("Terms", "page, lives (its LIVE words), words (its USED words) in picks", EdgesOfTextsTest::namesOfPages);
         edges.of("Terms", "/ cuts towards 0, by 0 it is 0", EdgesOfTextsTest::division);
         edges.of("Terms", "what is above 1000000 (below the same less) is that, at each step",
             EdgesOfTextsTest::greatNumbers);
         edges.of("Terms", "or and and look at both sides always, of if just the SUM that is chosen is asked",
             EdgesOfTextsTest::bothSides);
+        edges.of("Terms", "ASK: not ASK, or SUM one of < <= > >= = # (unlike) SUM.", EdgesOfTextsTest::comparisons);
     }
 
     private static void asks(ColouredHeap heap, String ask, boolean want) {
@@ -572,6 +630,32 @@ public final class EdgesOfTextsTest {
         asks(new ColouredHeap(), "used 0=0", true);
     }
 
+    private static void namesAtTheirEnds() {
+        asks(new ColouredHeap(), "clock=0 and phase=0 and free=8 and stack=0 and fields=0", true);
+        ColouredHeap last = Runs.atClock(9998);
+        last.image();
+        asks(last, "clock=9998 and phase=2", true);
+        last.day(1);
+        last.image();
+        asks(last, "clock=9999 and phase=0", true);
+        ColouredHeap full = markedAtTheLast();
+        asks(full, "clock=0 and phase=1 and free=0 and stack=1", true);
+        ColouredHeap most = Runs.ruled("paces fields*3;");
+        edges.due("0 fields", 0, most.paces(0));
+        edges.due("3 fields", 9, most.paces(3));
+    }
+
+    private static void namesOfPages() {
+        ColouredHeap heap = markedAtTheLast();
+        heap.by(Runs.tell(heap, "picks page*100-600+lives*10+words-147;"));
+        edges.due("page 7: 700 - 600 + 40 + 8 - 147", 1, heap.page(7, 3));
+        edges.due("page 6: 600 - 600 + 0 + 8 - 147", 0, heap.page(6, 3));
+        heap.by(Runs.tell(heap, "picks if page=0 and lives=0 and words=8 and clock=0 and free=0 and stack=phase"
+            + " then 1 else 0 end;"));
+        edges.due("page 0", 1, heap.page(0, 3));
+        edges.due("page 1", 0, heap.page(1, 3));
+    }
+
     private static void division() {
         holds("7/2=3");
         holds("-7/2=-3");
@@ -619,6 +703,23 @@ public final class EdgesOfTextsTest {
         holds("if 1=2 then 1/0 else 4 end=4");
         holds("1=2 and 1=2 or 1=1");
         holds("1=1 or 1=2 and 1=2");
+    }
+
+    private static void comparisons() {
+        String[] signs = {"<", "<=", ">", ">=", "=", "#"};
+        boolean[][] want = {
+            {true, false, false}, {true, true, false}, {false, false, true}, {false, true, true}, {false, true, false},
+            {true, false, true}
+        };
+        for (int i = 0; i < signs.length; i++) {
+            for (int left = -1; left <= 1; left++) {
+                boolean is = want[i][left + 1];
+                String number = left < 0 ? "-1" : String.valueOf(left);
+                asks(new ColouredHeap(), number + signs[i] + "0", is);
+                asks(new ColouredHeap(), "not " + number + signs[i] + "0", !is);
+                asks(new ColouredHeap(), "not not " + number + signs[i] + "0", is);
+            }
+        }
     }
 
     // ---- faults
@@ -681,6 +782,9 @@ public final class EdgesOfTextsTest {
         fault("picks (1;", 1, 8);
         fault("picks 1);", 1, 7);
         fault("picks 1+;", 1, 8);
+        fault("picks 1<=2;", 1, 7);
+        fault("picks 1>=2;", 1, 7);
+        fault("picks 1=2;", 1, 7);
         fault("picks 1*-;", 1, 9);
         fault("picks +1;", 1, 6);
         fault("picks not 1=1;", 1, 6);

@@ -105,6 +105,24 @@ final class Runs {
         return heap;
     }
 
+    /** The words, roots and pages as they are when all that can be has been taken back, in 108 calls at most. */
+    static List<String> eldest(ColouredHeap heap) {
+        for (int i = 0; i < 30; i++) {
+            heap.undo();
+        }
+        List<String> all = new ArrayList<>();
+        for (int i = 0; i < 64; i++) {
+            all.add("at " + i + ": " + heap.at(i));
+        }
+        for (int i = 0; i < 6; i++) {
+            all.add("root " + i + ": " + heap.root(i));
+        }
+        for (int page = 0; page < 8; page++) {
+            all.add("page " + page + ": " + heap.page(page, 0));
+        }
+        return all;
+    }
+
     /** All that can be seen of what is kept, in 321 calls. */
     static List<String> all(ColouredHeap heap) {
         List<String> all = new ArrayList<>();
