@@ -855,7 +855,11 @@ public final class EdgesOfAnswersTest {
         edges.of("Terms", "X is SEED (0 .. 9999) * 2 + 463; n times (1 .. 40)", EdgesOfAnswersTest::seeds);
         edges.of("Terms", "x is X, X is (X * 733 + 599) mod 31063", EdgesOfAnswersTest::draws);
         edges.of("Terms", "x mod 6: 0 an OBJECT of x / 6 mod 4 fields is MADE at ROOT x mod 5",
-            EdgesOfAnswersTest::drawnAsByHand);
+            () -> drawnAsByHand(0));
+        edges.of("Terms", "1 field x / 6 mod 3 of ROOT x mod 4 is LOADED into ROOT 4 and x mod 2",
+            () -> drawnAsByHand(1));
+        edges.of("Terms", "2 ROOT x / 6 mod 6 is STORED into field x mod 3 of ROOT x mod 4", () -> drawnAsByHand(2));
+        edges.of("Terms", "3 ROOT x / 6 mod 6 is DROPPED, if x mod 4 is 1", () -> drawnAsByHand(3));
         edges.of("Terms", "(each if it can be; else nothing)", EdgesOfAnswersTest::drawsThatCannot);
         edges.of("Terms", "(without paces)", EdgesOfAnswersTest::drawnWithoutPaces);
         edges.of("Terms", "4, 5 a TICK (if it can pass).", EdgesOfAnswersTest::drawnTicks);
@@ -936,11 +940,15 @@ public final class EdgesOfAnswersTest {
         return heap;
     }
 
-    private static void drawnAsByHand() {
-        for (int seed = 0; seed < 10000; seed += 37) {
+    /** Runs of draws of which the last is of that kind. */
+    private static void drawnAsByHand(int kind) {
+        for (int seed = 0; seed < 10000; seed += 23) {
+            int draws = 1 + seed % 40;
+            if (xAfter(seed, draws - 1) % 6 != kind) {
+                continue;
+            }
             ColouredHeap drawn = sixWithFields();
             ColouredHeap called = sixWithFields();
-            int draws = 1 + seed % 40;
             drawn.years(seed, draws);
             for (int i = 0; i < draws; i++) {
                 byHand(called, xAfter(seed, i));

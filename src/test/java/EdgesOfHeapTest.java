@@ -124,6 +124,8 @@ public final class EdgesOfHeapTest {
             EdgesOfHeapTest::addresses);
         edges.of("Terms", "An OBJECT of n fields (0 .. 3) has n and 1 words of one PAGE one behind the other",
             EdgesOfHeapTest::wordsOfOnePage);
+        edges.of("Terms", "A PAGE is FREE, IN USE or CHOSEN; USED: how many words from its first one on have been given"
+            + " out.", EdgesOfHeapTest::usedFromTheFirst);
         edges.of("Terms", "A POINTER: 64 times a colour (0, 1 marks, 2 mended) and an ADDRESS; NONE: none.",
             EdgesOfHeapTest::leastAndGreatestPointer);
         edges.of("Terms", "ROOTS 0 .. 5: POINTERS (at first none).", EdgesOfHeapTest::rootsAtFirst);
@@ -172,6 +174,25 @@ public final class EdgesOfHeapTest {
         edges.due("four words where three are left", 8, heap.make(0, 3));
         edges.due("the three stay nothing", -2, heap.at(7));
         edges.due("nor are they used", 5, heap.page(0, 1));
+    }
+
+    private static void usedFromTheFirst() {
+        ColouredHeap heap = new ColouredHeap();
+        edges.due("free", 0, heap.page(0, 0));
+        edges.due("none is used", 0, heap.page(0, 1));
+        for (int words = 1; words <= 8; words++) {
+            heap.make(0, 0);
+            edges.due("in use", 1, heap.page(0, 0));
+            edges.due("used", words, heap.page(0, 1));
+        }
+        heap.drop(0);
+        edges.due("dead words are used, too", 8, heap.page(0, 1));
+        ColouredHeap chosen = Runs.moving();
+        edges.due("chosen", 2, chosen.page(0, 0));
+        edges.due("its words are used", 7, chosen.page(0, 1));
+        chosen.day(2);
+        edges.due("free again", 0, chosen.page(0, 0));
+        edges.due("none is used again", 0, chosen.page(0, 1));
     }
 
     private static void leastAndGreatestPointer() {
@@ -1068,11 +1089,13 @@ public final class EdgesOfHeapTest {
         edges.of("Terms", "no ADDRESS has FORWARD any more", EdgesOfHeapTest::forwardIsGone);
         edges.of("Terms", "PAGES IN USE (but those to make, to move on) without LIVE words (words of MARKED OBJECTS) are"
             + " FREE, nothing in them (each written down, by number)", EdgesOfHeapTest::pagesWithoutLife);
+        edges.of("Terms", "then PAGES IN USE (but those two)", EdgesOfHeapTest::butThoseTwo);
         edges.of("Terms", "by LIVE, least first, of like ones the lowest", EdgesOfHeapTest::leastFirst);
         edges.of("Terms", "while LIVE of them together is no more than 5 times the PAGES that are FREE then",
             EdgesOfHeapTest::fiveTimesFree);
         edges.of("Terms", "(one that is too much is left out, others may follow)", EdgesOfHeapTest::tooMuch);
         edges.of("Terms", "there is no PAGE to move on", EdgesOfHeapTest::noPageToMoveOn);
+        edges.of("Terms", "ROOTS by number are MENDED", EdgesOfHeapTest::rootsByNumber);
     }
 
     private static void whoMayChoose() {
@@ -1224,6 +1247,46 @@ public final class EdgesOfHeapTest {
         edges.due("left out: its objects stay", 1003, heap.at(0));
         edges.due("not picked: left out, another follows", 2,
             chosen(pages("picks page*(2-page);", 4, page(3, -4, -1), page(4, -4), page(2, -4, -2))));
+    }
+
+    private static void butThoseTwo() {
+        ColouredHeap make = Runs.ruled("picks 1;");
+        make.make(0, 0);
+        make.make(1, 0);
+        make.start();
+        make.day(2);
+        edges.due("the page to make on", 0, chosen(make));
+        ColouredHeap move = cycled();
+        move.by(Runs.tell(move, "picks 1;"));
+        move.start();
+        move.day(2);
+        edges.due("that to move on, too", 0, chosen(move));
+        move.day(1);
+        move.start();
+        move.day(2);
+        edges.due("it is no such page any more", 4, chosen(move));
+    }
+
+    private static void rootsByNumber() {
+        ColouredHeap heap = new ColouredHeap();
+        heap.make(5, 1);
+        heap.make(0, 1);
+        heap.make(3, 2);
+        heap.make(2, 3);
+        heap.by(Runs.tell(heap, "picks 1;"));
+        heap.start();
+        edges.due("roots 0, 2, 3, 5 lie on the stack", 4, heap.is(4));
+        heap.day(4);
+        heap.choose();
+        int lines = heap.book(-1, 0);
+        int[] old = {2, 4, 0};
+        for (int i = 0; i < 3; i++) {
+            edges.due("moved " + i, old[i], heap.book(lines - 3 + i, 2));
+        }
+        edges.due("root 0", 128 + 16, heap.root(0));
+        edges.due("root 3", 128 + 18, heap.root(3));
+        edges.due("root 5", 128 + 21, heap.root(5));
+        edges.due("root 2 is on the page to make on", 128 + 8, heap.root(2));
     }
 
     private static void noPageToMoveOn() {
