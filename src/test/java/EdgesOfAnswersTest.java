@@ -705,6 +705,7 @@ public final class EdgesOfAnswersTest {
         edges.of("Terms", "GAPS: words of a PAGE that are USED, but of no REACHED OBJECT.", EdgesOfAnswersTest::allGaps);
         edges.of("Promise 41", "NONE for others.", () -> refusedAll("gaps", -1, Edges.others(0, 7), Runs::moving,
             ColouredHeap::gaps));
+        edges.of("Terms", "SHAPE: where a field of a REACHED OBJECT leads (CURRENT).", EdgesOfAnswersTest::shapeOfMoved);
         edges.of("Promise 42", "NONE: none, and for others.", EdgesOfAnswersTest::noShape);
         edges.of("Terms", "if they have as many fields and each field of the one leads where that of the other does (or"
             + " both nowhere)", EdgesOfAnswersTest::sameNowhere);
@@ -760,6 +761,20 @@ public final class EdgesOfAnswersTest {
         edges.due("what isn't used is none", 4, Runs.shared().gaps(0));
         ColouredHeap late = begunBoth();
         edges.due("copies that are not told", 6, late.gaps(2));
+    }
+
+    private static void shapeOfMoved() {
+        ColouredHeap heap = Runs.moving();
+        edges.due("not moved yet", 1, heap.shape(8, 0));
+        heap.load(0, 4, 0);
+        edges.due("the mended field", 16, heap.shape(8, 0));
+        edges.due("the stale one leads there, too", 16, heap.shape(8, 1));
+        edges.due("the chain", 2, heap.chain(8));
+        edges.due("the old one is left", -1, heap.shape(1, 0));
+        heap.make(1, 3);
+        heap.store(1, 0, 0);
+        heap.store(1, 1, 0);
+        edges.due("a stale field is as a mended one", true, heap.same(8, 12));
     }
 
     private static void noShape() {

@@ -1089,6 +1089,7 @@ public final class EdgesOfHeapTest {
         edges.of("Terms", "no ADDRESS has FORWARD any more", EdgesOfHeapTest::forwardIsGone);
         edges.of("Terms", "PAGES IN USE (but those to make, to move on) without LIVE words (words of MARKED OBJECTS) are"
             + " FREE, nothing in them (each written down, by number)", EdgesOfHeapTest::pagesWithoutLife);
+        edges.of("Terms", "the good colour is 2, PHASE MOVING; then PAGES IN USE", EdgesOfHeapTest::pickedWhileMoving);
         edges.of("Terms", "then PAGES IN USE (but those two)", EdgesOfHeapTest::butThoseTwo);
         edges.of("Terms", "by LIVE, least first, of like ones the lowest", EdgesOfHeapTest::leastFirst);
         edges.of("Terms", "while LIVE of them together is no more than 5 times the PAGES that are FREE then",
@@ -1247,6 +1248,13 @@ public final class EdgesOfHeapTest {
         edges.due("left out: its objects stay", 1003, heap.at(0));
         edges.due("not picked: left out, another follows", 2,
             chosen(pages("picks page*(2-page);", 4, page(3, -4, -1), page(4, -4), page(2, -4, -2))));
+    }
+
+    private static void pickedWhileMoving() {
+        edges.due("phase is 2", 1, chosen(pages("picks if phase=2 then 1-page else 0 end;", 1, page(1, -4, -3))));
+        edges.due("phase is not 1", 0, chosen(pages("picks if phase=1 then 1-page else 0 end;", 1, page(1, -4, -3))));
+        edges.due("those that were freed are free", 1,
+            chosen(pages("picks if free=6 then 1-page else 0 end;", 1, page(1, -4, -3), page(-4, -4))));
     }
 
     private static void butThoseTwo() {
