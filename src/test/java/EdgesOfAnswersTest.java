@@ -632,6 +632,14 @@ public final class EdgesOfAnswersTest {
         edges.due("3 3 3 3 2 2 in two", 2, packed(3, 3, 3, 3, 2, 2));
         edges.due("4 4 4 3 1 in two", 2, packed(4, 4, 4, 3, 1));
         edges.due("4 4 4 4 1 in three", 3, packed(4, 4, 4, 4, 1));
+        ColouredHeap row = new ColouredHeap();
+        for (int words : new int[] {4, 4, 4, 4, 4, 4, 4, 3, 3, 3, 3, 3, 3, 2}) {
+            row.make(0, words - 1);
+            row.store(0, 0, 5);
+            row.copy(5, 0);
+        }
+        edges.due("48 words", 48, row.reach(true));
+        edges.due("seven of 4, six of 3 and one of 2 in seven", 7, row.pack());
     }
 
     private static void noneAndAllPacked() {

@@ -252,12 +252,12 @@ public final class ViewsTest {
     }
 
     private static void packsOfAllKinds() {
-        for (int ones = 0; ones <= 5; ones += 1) {
-            for (int twos = 0; twos <= 9; twos++) {
+        for (int ones = 0; ones <= 5; ones++) {
+            for (int twos = 0; twos <= 12; twos++) {
                 for (int threes = 0; threes <= 9; threes++) {
-                    for (int fours = 0; fours <= 6; fours++) {
+                    for (int fours = 0; fours <= 12; fours++) {
                         int words = ones + 2 * twos + 3 * threes + 4 * fours;
-                        if (words > 48) {
+                        if (words > 60) {
                             continue;
                         }
                         ColouredHeap heap = rowOf(ones, twos, threes, fours);
